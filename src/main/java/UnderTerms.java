@@ -422,7 +422,8 @@ public final class UnderTerms {
         for (int from = 0; from < LAST_KIND; from++) {
             for (int to = from + 1; to <= LAST_KIND; to++) {
                 web.spin();
-                int cost = (to - from) * book.coin * web.loosen(from, to);
+                int changed = web.loosen(from, to);
+                int cost = (to - from) * book.coin * changed;
                 if ((least == NONE || cost < least) && web.someGoodWith(web.parts)) {
                     least = cost;
                     pair = 10 * from + to;
