@@ -25,6 +25,7 @@ public final class BoundsOfMoreTest {
         promise23TheWholeItself();
         promise23NotOfTheWhole();
         promise23LongestAndMost();
+        promise23WaysFromTheWholeAlone();
         promise24Images0And1();
         promise24AllButSigns();
         promise24KeptAnew();
@@ -345,6 +346,21 @@ public final class BoundsOfMoreTest {
         DUE.is("23: the shorter one alone", x.audit(0, 0) * 10 + x.audit(0, 1), 11);
         x.uses(5, 0, -1);
         DUE.is("23: none any more", x.audit(0, 1), NONE);
+    }
+
+    private static void promise23WaysFromTheWholeAlone() {
+        UnderTerms x = new UnderTerms();
+        for (int p = 1; p < 5; p++) {
+            x.uses(p, p - 1, 0);
+        }
+        x.uses(5, 0, 0);
+        DUE.is("23: a chain that THE WHOLE does not USE", x.audit(0, 0) * 10 + x.audit(0, 1), 11);
+        x.uses(5, 2, 0);
+        DUE.is("23: a part of it", x.audit(0, 0) * 10 + x.audit(0, 1), 32);
+        x.uses(5, 4, 0);
+        DUE.is("23: all of it", x.audit(0, 0) * 10 + x.audit(0, 1), 53);
+        x.whole(3);
+        DUE.is("23: from a lower WHOLE", x.audit(0, 0) * 10 + x.audit(0, 1), 31);
     }
 
     private static void promise24Images0And1() {
