@@ -25,8 +25,8 @@ public final class UnderTerms {
     private static final int IMAGES_IN_ALL = 2;
 
     private final Pad pad;
-    private final Book book;
     private final Web web;
+    private final Book book;
     private final Chosen taken;
     private final Book[] images;
     private final boolean[] kept;
@@ -34,8 +34,8 @@ public final class UnderTerms {
 
     public UnderTerms() {
         pad = new Pad();
-        book = new Book();
-        web = new Web(book);
+        web = new Web();
+        book = web.book;
         taken = new Chosen();
         images = new Book[IMAGES_IN_ALL];
         for (int n = 0; n < IMAGES_IN_ALL; n++) {
@@ -637,7 +637,7 @@ public final class UnderTerms {
 
     /** THE WHOLE with its USES as the book has them, or as they would be with other ones. */
     private static final class Web {
-        final Book book;
+        final Book book = new Book();
         final int[] choices = new int[PIECES_IN_ALL];
         final int[] longest = new int[PIECES_IN_ALL];
         final int[] ways = new int[PIECES_IN_ALL];
@@ -655,10 +655,6 @@ public final class UnderTerms {
         /** By MAY GO: how many CHOSEN have it. */
         private int[] counts = new int[ALL_TERMS + 1];
         private int[] nextCounts = new int[ALL_TERMS + 1];
-
-        Web(Book book) {
-            this.book = book;
-        }
 
         /** As the book has it. */
         void spin() {
